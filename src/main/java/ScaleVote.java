@@ -237,7 +237,7 @@ public final class ScaleVote {
         if (what == 0) {
             return told.length[found];
         }
-        return now.torn[found] ? 1 : 0;
+        return now.torn[found];
     }
 
     public int gain(int person, int scale) {
@@ -1288,7 +1288,8 @@ public final class ScaleVote {
         Realm realm;
         final int[] scale = new int[MOST_REGIONS];
         final int[] yielded = new int[MOST_REGIONS];
-        final boolean[] torn = new boolean[MOST_JOINS];
+        /** Of each JOIN 1 or 0. */
+        final int[] torn = new int[MOST_JOINS];
         final int[] home = new int[MOST_PEOPLE];
         final int[] called = new int[MOST_PEOPLE];
         final int[] tooBig = new int[MOST_PEOPLE];
@@ -1348,11 +1349,9 @@ public final class ScaleVote {
             for (int k = 0; k < realm.joins; k++) {
                 int one = realm.joinOne[k];
                 int other = realm.joinOther[k];
-                torn[k] = Math.abs(scale[one] - scale[other]) > tear;
-                if (torn[k]) {
-                    tears[one]++;
-                    tears[other]++;
-                }
+                torn[k] = Math.abs(scale[one] - scale[other]) > tear ? 1 : 0;
+                tears[one] += torn[k];
+                tears[other] += torn[k];
             }
         }
 
@@ -1513,7 +1512,7 @@ public final class ScaleVote {
         int tornInAll() {
             int sum = 0;
             for (int join = 0; join < realm.joins; join++) {
-                sum += torn[join] ? 1 : 0;
+                sum += torn[join];
             }
             return sum;
         }
@@ -1626,7 +1625,9 @@ public final class ScaleVote {
 
         /** Finds which ones are struck: a STRIKE is behind what it strikes, so the last one is sure. */
         void weigh() {
-            Arrays.fill(struck, false);
+            for (int k = 0; k < MOST_STONES; k++) {
+                struck[k] = false;
+            }
             for (int k = knownCount() - 1; k >= 0; k--) {
                 if (kinds[k] == STRIKE && !struck[k]) {
                     struck[whiches[k]] = true;
@@ -1866,7 +1867,7 @@ public final class ScaleVote {
                     reach(behind + 1, region, latestOut(behind, region));
                 }
                 for (int join = 0; join < world.realm.joins; join++) {
-                    if (!world.torn[join]) {
+                    if (world.torn[join] == 0) {
                         cross(world, behind, join, world.realm.joinOne[join], world.realm.joinOther[join]);
                         cross(world, behind, join, world.realm.joinOther[join], world.realm.joinOne[join]);
                     }
