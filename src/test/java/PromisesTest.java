@@ -96,6 +96,15 @@ public final class PromisesTest {
         due("3: the tape stays", 40, x.feed(0, 0, 0, 0, 0));
         due("3: the first bytes alone", 1, x.text(7));
         due("3: it is empty then", -2, x.text(1));
+        Check.feed(x, "tear 55;");
+        due("3: cut in a number", NONE, x.text(6));
+        due("3: more must come", 6, x.fault(1));
+        Check.feed(x, "law gain scales");
+        due("3: cut in a word", NONE, x.text(14));
+        due("3: more must come", 14, x.fault(1));
+        Check.feed(x, "law gain 1 <= 2;");
+        due("3: cut in a sign", NONE, x.text(12));
+        due("3: more must come", 12, x.fault(1));
         due("3: lines", 11, Check.tell(x, REALM));
         due("3: lines without regions", 4, Check.tell(x, "tear 0;law way 1;\nlaw gain 2 ; law yield 3 ;\n"));
         due("3: told anew", 0, x.count(0));
@@ -214,11 +223,22 @@ public final class PromisesTest {
             many.append("debt ").append(name).append(" 1;");
         }
         fine(14, many.toString());
+        String eight = many.toString().replaceAll("debt.*", "") + "person h p 1 1;";
+        fine(9, eight);
+        fault(2, eight.length(), eight + "person a;");
+        String six = "region a 1 1 1;region b 1 1 1;region c 1 1 1;region d 1 1 1;region e 1 1 1;region f 1 1 1;";
+        fine(6, six);
+        fault(2, six.length() + 1, six + " region;");
+        String nine = six + "join a b 1;join a c 1;join a d 1;join a e 1;join a f 1;join b c 1;join b d 1;join b e 1;join b f 1;";
+        fine(15, nine);
+        fault(2, nine.length(), nine + "join a b 1;");
         fault(2, many.length(), many + "debt g 1;");
         fault(2, many.length(), many + "debt;");
     }
 
     private static void promise4Laws() {
+        fault(1, 3, "law;");
+        fault(1, 4, "law ;");
         fault(1, 4, "law p 1;");
         fault(1, 4, "law or 1;");
         fault(3, 14, "law way 1;law way;");
@@ -234,6 +254,8 @@ public final class PromisesTest {
         fault(1, 15, "law gain 1 < 2 < 3;");
         fault(1, 15, "law gain 1 < 2 = 3;");
         fault(1, 19, "law gain not 1 < 2 > 3;");
+        fault(1, 19, "law gain 1 < 2 + 3 < 4;");
+        fault(1, 23, "law gain 1 < 2 + 3 * 4 = 5;");
         fault(1, 15, "law gain 1 < 2 <> 3;");
         fine(1, "law gain 1 < (2 < 3);");
         fine(1, "law gain (1 < 2) < 3;");
@@ -428,6 +450,11 @@ public final class PromisesTest {
         due("10: not binds less than a comparison", 0, value("not 0 < 1"));
         due("10: not before and", 0, value("not 1 and 0"));
         due("10: not not", 1, value("not not 7"));
+        due("10: 63 nots", 0, value("not ".repeat(63) + "7"));
+        due("10: 62 nots and as many brackets as may be", 1, value("((((((((" + "not ".repeat(62) + "7))))))))"));
+        due("10: 63 knots", 32, value("1" + "+1".repeat(31)));
+        due("10: waiting signs", 21, value("1+(2+(3+(4+(5+(6)))))"));
+        due("10: waiting signs of all levels", 0, value("not 1 or 0 and not 3 < 4 + 5 * (2 or 0 and 1 + 1 * 1)"));
         due("10: and before or", 1, value("1 or 1 and 0"));
         due("10: and", 1, value("5 and 9"));
         due("10: and", 0, value("5 and 0"));
@@ -667,6 +694,11 @@ public final class PromisesTest {
         due("19: d", 5, x.best(4));
         x.decree(4, 6);
         due("19: as now", 9 + 9 + 9 + 5 + 180 + 18, x.best(0));
+        x = Check.told("region a 5 1 1;region b 5 2 1;region c 5 3 1;law yield (scale = 8 / area) + (area = 3) * (scale = 1);");
+        due("19: each by itself", 3, x.best(0));
+        due("19: 8 by 1", 8, x.best(1));
+        due("19: 8 by 2", 4, x.best(2));
+        due("19: 1 before 2", 1, x.best(3));
         x = Check.told("region a 5 1 1;law yield 0;");
         due("19: nothing", 0, x.best(0));
         due("19: by the least", 1, x.best(1));
@@ -1052,6 +1084,25 @@ public final class PromisesTest {
         }
         due("34: none", NONE, x.undo());
         due("34: the first five stay", 4, x.region(0, 0));
+        x = Check.told(REALM);
+        for (int k = 0; k < 8; k++) {
+            x.decree(k % 2, 1 + k);
+            x.canvass(2, k % 3 - 1);
+            x.move(k % 2, k < 4 ? 2 : 0);
+        }
+        // 8 decrees, 8 canvassed and the moves 0 1 (to r), 0 1 (to p): 20; one more pushes the first decree out.
+        due("34: all of them", 20, x.count(13));
+        x.decree(2, 1);
+        due("34: the oldest falls away", 20, x.count(13));
+        for (int k = 19; k >= 0; k--) {
+            due("34: of all kinds", k, x.undo());
+        }
+        due("34: nobody is canvassed", 0, x.count(10));
+        due("34: the first decree stays", 1, x.region(0, 0));
+        due("34: q as told", 5, x.region(1, 0));
+        due("34: r as told", 8, x.region(2, 0));
+        due("34: two in p", 2, x.region(0, 3));
+        x = Check.told(REALM);
         x.decree(0, 9);
         x.decree(0, 9);
         x.seasons(0);
