@@ -157,7 +157,8 @@ public final class CallEdgesTest {
         for (int tear = 0; tear <= 8; tear++) {
             Run run = told("region p 1 1 1;region q 1 1 1;join p q 9;tear " + tear + ";");
             for (int scale = 2; scale <= 9; scale++) {
-                run.yes("decree", 1, scale).due(scale - 1 > tear ? 1 : 0, "join", 0, 1, 1).due(scale - 1 > tear ? 1 : 0, "join", 1, 0, 1);
+                run.yes("decree", 1, scale).due(scale - 1 > tear ? 1 : 0, "join", 0, 1, 1)
+                        .due(scale - 1 > tear ? 1 : 0, "join", 1, 0, 1);
             }
             run.yes("decree", 0, 9).due(0, "join", 0, 1, 1).due(9, "join", 0, 1, 0);
         }
@@ -190,7 +191,8 @@ public final class CallEdgesTest {
         told(p + "4096*4096*256+5;").due(99, "gain", 0, 1);
         told(p + "0-4096*4096*256+5;").due(-99, "gain", 0, 1);
         // By each scale its own error.
-        told(p + "90/(scale-4);").due(-30, "gain", 0, 1).due(-90, "gain", 0, 3).due(8, "gain", 0, 4).due(90, "gain", 0, 5).due(18, "gain", 0, 9);
+        told(p + "90/(scale-4);").due(-30, "gain", 0, 1).due(-90, "gain", 0, 3).due(8, "gain", 0, 4).due(90, "gain", 0, 5)
+                .due(18, "gain", 0, 9);
         // All else as now: torn is not by the scale that is asked for.
         Run run = told("region p 5 1 1;region q 5 1 1;join p q 1;person a p 3 1;tear 0;law gain torn*10+scale;");
         run.due(9, "gain", 0, 9).yes("decree", 1, 6).due(19, "gain", 0, 9).due(16, "gain", 0, 6);
@@ -302,7 +304,8 @@ public final class CallEdgesTest {
             run.due(due[k][0], "law", 0, 0).due(due[k][1], "law", 0, 2);
             run.due(due[k][2], "law", 1, 0).due(due[k][3], "law", 1, 1).due(due[k][4], "law", 1, 2);
             run.due(due[k][5], "law", 2, 0).due(due[k][6], "law", 2, 1);
-            run.due(ERROR, "law", 0, 3).due(ERROR, "law", 1, 3).due(ERROR, "law", 2, 2).due(ERROR, "law", 3, 0).due(ERROR, "law", -1, 0);
+            run.due(ERROR, "law", 0, 3).due(ERROR, "law", 1, 3).due(ERROR, "law", 2, 2).due(ERROR, "law", 3, 0)
+                    .due(ERROR, "law", -1, 0);
             run.yes("canvass", 0, 0).yes("canvass", 1, 0).yes("canvass", 2, 0).ask("seasons", 1);
             if (name.equals("season")) {
                 run.due(1, "law", 0, 0).due(1, "law", 1, 0).due(1, "law", 2, 0);
@@ -318,7 +321,8 @@ public final class CallEdgesTest {
     private static void canvass() {
         Run run = told(Realms.SMALL);
         for (int vote = -1; vote <= 1; vote++) {
-            run.yes("canvass", 0, vote).no("canvass", 0, vote).due(vote, "person", 0, 3).due(1, "person", 0, 5).due(1, "count", 10);
+            run.yes("canvass", 0, vote).no("canvass", 0, vote).due(vote, "person", 0, 3).due(1, "person", 0, 5)
+                    .due(1, "count", 10);
         }
         run.no("canvass", 0, 2).no("canvass", 0, -2).no("canvass", 3, 0).no("canvass", -1, 0).due(1, "person", 0, 3);
         run.due(3, "count", 13);
@@ -371,7 +375,8 @@ public final class CallEdgesTest {
     /** Promise 14. */
     private static void seasons() {
         Run run = told(Realms.SMALL);
-        run.due(0, "seasons", 0).due(NONE, "seasons", -1).due(NONE, "seasons", 100).due(NONE, "seasons", MIN).due(NONE, "seasons", MAX);
+        run.due(0, "seasons", 0).due(NONE, "seasons", -1).due(NONE, "seasons", 100).due(NONE, "seasons", MIN)
+                .due(NONE, "seasons", MAX);
         run.due(0, "count", 5).due(0, "count", 8).due(99, "seasons", 99).due(100, "seasons", 1).due(100, "seasons", 0);
         // The vote is above 0, below 0, of 0.
         String p = "region p 5 1 9;person a p 9 2;person b p 1 ";
@@ -381,11 +386,13 @@ public final class CallEdgesTest {
         // 9 at most, 1 at least, by one step a season, whatever the vote.
         run = told("region p 8 1 9;region q 2 1 9;person a p 9 3;person b q 1 3;person c p 9 3;law gain 0;");
         for (int k = 0; k < 3; k++) {
-            run.yes("canvass", 0, 1).yes("canvass", 1, -1).yes("canvass", 2, 1).due(k + 1, "seasons", 1).due(9, "region", 0, 0).due(1, "region", 1, 0);
+            run.yes("canvass", 0, 1).yes("canvass", 1, -1).yes("canvass", 2, 1).due(k + 1, "seasons", 1).due(9, "region", 0, 0)
+                    .due(1, "region", 1, 0);
         }
         // A season's yield is by its own scale, torn and number.
         run = told("region p 5 3 9;region q 5 3 9;join p q 1;person a p 9 1;tear 0;law gain scale;law yield torn*1000+season*100+scale;");
-        run.due(1, "seasons", 1).due(1006, "region", 0, 6).due(1005, "region", 1, 6).due(2, "seasons", 1).due(1006 + 1107, "region", 0, 6);
+        run.due(1, "seasons", 1).due(1006, "region", 0, 6).due(1005, "region", 1, 6).due(2, "seasons", 1)
+                .due(1006 + 1107, "region", 0, 6);
         // All vote by what is ahead of the season: p's and q's people see each other's scales of then.
         run = told("region p 1 1 9;region q 3 1 9;join p q 1;person a p 5 1;person b q 5 1;tear 1;law gain scale*(torn*2-1);");
         run.due(1, "seasons", 1).due(2, "region", 0, 0).due(4, "region", 1, 0).due(1, "count", 7);
@@ -403,14 +410,17 @@ public final class CallEdgesTest {
             run.due(99L * k, "seasons", 99);
         }
         run.due(9999, "count", 5).due(NONE, "seasons", 1).due(NONE, "seasons", 99).due(9999, "seasons", 0).due(9999, "count", 5);
-        run.due(9999L * 9999, "region", 5, 6).due(9999L * 9999 * 6, "count", 8).due(9999, "person", 7, 4).due(9999L * 8, "count", 9);
-        run.due(9999, "law", 0, 0).due(99, "gain", 0, 1).due(60L * 9999, "ahead", 0, 60, 1).due(6L * 60 * 9999, "tried", 0, 0, 60);
+        run.due(9999L * 9999, "region", 5, 6).due(9999L * 9999 * 6, "count", 8).due(9999, "person", 7, 4)
+                .due(9999L * 8, "count", 9);
+        run.due(9999, "law", 0, 0).due(99, "gain", 0, 1).due(60L * 9999, "ahead", 0, 60, 1)
+                .due(6L * 60 * 9999, "tried", 0, 0, 60);
         run.due(9999, "keep").due(9999, "back").due(10, "chance", 0, 60, 0, 1).due(0, "steady", 99);
         run = told("region p 1 1 1;");
         for (int k = 1; k <= 100; k++) {
             run.ask("seasons", 99);
         }
-        run.due(9902, "seasons", 2).due(NONE, "seasons", 98).due(9902, "count", 5).due(9999, "seasons", 97).due(NONE, "seasons", 1);
+        run.due(9902, "seasons", 2).due(NONE, "seasons", 98).due(9902, "count", 5).due(9999, "seasons", 97)
+                .due(NONE, "seasons", 1);
     }
 
     /** Promise 15. */
@@ -434,7 +444,8 @@ public final class CallEdgesTest {
         told(swings + "0);").due(0, "steady", 1).due(NONE, "steady", 0).due(NONE, "steady", -1).due(NONE, "steady", MIN);
         // A vote that can't move a scale beyond its end changes none.
         told("region p 9 1 1;person a p 9 1;law gain 0;").yes("canvass", 0, 1).due(0, "steady", 1);
-        told("region p 1 1 1;person a p 9 1;law gain 0;").yes("canvass", 0, -1).due(0, "steady", 1).yes("canvass", 0, 1).due(1, "steady", 1);
+        told("region p 1 1 1;person a p 9 1;law gain 0;").yes("canvass", 0, -1).due(0, "steady", 1).yes("canvass", 0, 1)
+                .due(1, "steady", 1);
         told("tear 1;").due(0, "steady", 1);
         told("region p 1 1 1;").due(0, "steady", 1);
         // Of two regions the one that moves longer tells.
@@ -473,7 +484,8 @@ public final class CallEdgesTest {
             ones.append("person ").append(name).append(" p 1 1;");
         }
         // All eight vote smaller: five must turn, four make 0.
-        Run run = told(ones.toString()).due(0, "buy", 1, false).due(31, "buy", 1, true).due(-2, "buy", 0, true).due(-2, "buy", 0, false);
+        Run run = told(ones.toString()).due(0, "buy", 1, false).due(31, "buy", 1, true).due(-2, "buy", 0, true)
+                .due(-2, "buy", 0, false);
         run.due(NONE, "buy", 2, true).due(NONE, "buy", -1, false).due(NONE, "buy", MIN, true).due(NONE, "buy", MAX, false);
         for (int person = 0; person < 8; person++) {
             run.yes("canvass", person, 0);
@@ -497,7 +509,8 @@ public final class CallEdgesTest {
 
     /** Promise 19. */
     private static void best() {
-        told("tear 0;law yield 5;").due(0, "best", 0).due(-2, "best", 1).due(-2, "best", 4).due(NONE, "best", 5).due(NONE, "best", -1);
+        told("tear 0;law yield 5;").due(0, "best", 0).due(-2, "best", 1).due(-2, "best", 4).due(NONE, "best", 5)
+                .due(NONE, "best", -1);
         told("region a 5 1 0;").due(3, "best", 0).due(9, "best", 1).due(-2, "best", 2).due(-2, "best", 4);
         told("region a 5 1 0;region b 5 1 0;region c 5 1 0;").due(-2, "best", 4).due(9, "best", 3);
         told("region a 5 1 0;region b 5 1 0;region c 5 1 0;region d 5 1 0;").due(9, "best", 4).due(NONE, "best", 5);
@@ -510,14 +523,16 @@ public final class CallEdgesTest {
         // Cut: area 1 yields 1 from 3 on, 2 from 6 on, 3 by 9.
         told("region a 1 1 0;law yield scale/5;").due(1, "best", 0).due(5, "best", 1);
         // As much by 1 and 2 as by 2 and 1: the first by regions.
-        told("region a 5 1 0;region b 5 1 0;join a b 1;tear 0;law yield torn;").due(2, "best", 0).due(1, "best", 1).due(2, "best", 2);
-        // The least in sum goes ahead of the first by regions.
-        told("region a 5 1 0;region b 5 2 0;law yield (area=1)*(scale=1)*0+(area=1)*(scale=2)+(area=2)*(scale=1);").due(2, "best", 0)
+        told("region a 5 1 0;region b 5 1 0;join a b 1;tear 0;law yield torn;").due(2, "best", 0).due(1, "best", 1)
+                .due(2, "best", 2);
+        // The least in sum goes ahead of the first by regions: 2 and 1 yield 2, as 1 and 9 do, being torn.
+        told("region a 5 1 0;region b 5 2 0;join b a 1;tear 7;law yield torn+(area=1)*(scale=2)*2;").due(2, "best", 0)
                 .due(2, "best", 1).due(1, "best", 2);
         // The fifth and sixth stay as they are, but are torn by these scales.
         run = told("region a 5 1 0;region b 5 1 0;region c 5 1 0;region d 5 1 0;region e 9 1 0;region f 1 1 0;join a e 1;join d f 1;"
                 + "tear 7;law yield torn*10;");
-        run.due(40, "best", 0).due(1, "best", 1).due(1, "best", 2).due(1, "best", 3).due(9, "best", 4).due(5, "region", 0, 0).due(0, "count", 7);
+        run.due(40, "best", 0).due(1, "best", 1).due(1, "best", 2).due(1, "best", 3).due(9, "best", 4).due(5, "region", 0, 0)
+                .due(0, "count", 7);
         // By the season of now, the crowd of now.
         run = told("region a 5 1 9;person a a 5 1;law yield (scale=season+2)*crowd;law gain 0;");
         run.due(2, "best", 1).due(3, "seasons", 3).due(5, "best", 1).due(1, "best", 0);
@@ -534,12 +549,14 @@ public final class CallEdgesTest {
         run.due(72, "gaps").due(0, "mend", 0).due(69, "mend", 1);
         // Of several the first by regions; by one less, too.
         told("region a 9 1 0;region b 1 1 0;join a b 1;").due(8, "gaps").due(0, "mend", 0).due(7, "mend", 1);
-        told("region a 5 1 0;region b 1 1 0;region c 9 1 0;join a b 1;join a c 1;").due(8, "gaps").due(1, "mend", 0).due(7, "mend", 1);
+        told("region a 5 1 0;region b 1 1 0;region c 9 1 0;join a b 1;join a c 1;").due(8, "gaps").due(1, "mend", 0)
+                .due(7, "mend", 1);
         told("region a 4 1 0;region b 5 1 0;join b a 1;").due(1, "gaps").due(0, "mend", 0).due(0, "mend", 1);
         // One step makes it more, or as much: none.
         told("region a 5 1 0;region b 5 1 0;join a b 1;").due(0, "gaps").due(-2, "mend", 0).due(0, "mend", 1);
         run = told("region a 1 1 0;region b 2 1 0;region c 3 1 0;join a b 1;join b c 1;join c a 1;");
-        run.due(4, "gaps").due(0, "mend", 0).due(2, "mend", 1).yes("decree", 0, 2).due(2, "gaps").due(2, "mend", 0).due(0, "mend", 1);
+        run.due(4, "gaps").due(0, "mend", 0).due(2, "mend", 1).yes("decree", 0, 2).due(2, "gaps").due(2, "mend", 0)
+                .due(0, "mend", 1);
         // A later one that makes it less than the first does.
         told("region a 1 1 0;region b 5 1 0;region c 1 1 0;region d 1 1 0;join a b 1;join b c 1;join d b 1;").due(12, "gaps")
                 .due(1, "mend", 0).due(9, "mend", 1);
@@ -553,9 +570,11 @@ public final class CallEdgesTest {
     /** Promise 22. */
     private static void way() {
         Run run = told(chain("law way 9;"));
-        run.due(45, "way", 0, 5, 0).due(59, "way", 0, 5, 14).due(60, "way", 0, 5, 15).due(-2, "way", 0, 5, 16).due(-2, "way", 0, 5, 60);
+        run.due(45, "way", 0, 5, 0).due(59, "way", 0, 5, 14).due(60, "way", 0, 5, 15).due(-2, "way", 0, 5, 16)
+                .due(-2, "way", 0, 5, 60);
         run.due(60, "way", 5, 0, 15).due(-2, "way", 5, 0, 16).due(60, "way", 0, 1, 51).due(-2, "way", 0, 1, 52);
-        run.due(0, "way", 0, 0, 0).due(60, "way", 0, 0, 60).due(59, "way", 5, 5, 59).due(NONE, "way", 0, 0, 61).due(NONE, "way", 0, 0, -1);
+        run.due(0, "way", 0, 0, 0).due(60, "way", 0, 0, 60).due(59, "way", 5, 5, 59).due(NONE, "way", 0, 0, 61)
+                .due(NONE, "way", 0, 0, -1);
         run.due(NONE, "way", 6, 6, 0).due(NONE, "way", -1, -1, 0).due(NONE, "way", 0, 6, 0).due(NONE, "way", 6, 0, 0);
         // 1 .. 9.
         told(chain("law way 0-1;")).due(5, "way", 0, 5, 0);
@@ -584,16 +603,19 @@ public final class CallEdgesTest {
         told("region a 2 1 0;region b 4 1 0;join a b 9;").due(1, "way", 0, 1, 0).due(2, "way", 1, 0, 0);
         // By the season when one leaves, and the crowd there.
         told("region a 5 1 0;region b 5 1 0;join a b 9;law way (season<>3)*8+1;").due(4, "way", 0, 1, 0).due(13, "way", 0, 1, 4);
-        told("region a 5 1 0;region b 5 1 9;join a b 9;person x b 5 1;law way crowd*5;").due(1, "way", 0, 1, 0).due(5, "way", 1, 0, 0);
+        told("region a 5 1 0;region b 5 1 9;join a b 9;person x b 5 1;law way crowd*5;").due(1, "way", 0, 1, 0)
+                .due(5, "way", 1, 0, 0);
         // Sooner by a longer way round.
-        told("region a 5 1 0;region b 5 1 0;region c 5 1 0;join a c 9;join a b 1;join b c 1;law way length;").due(2, "way", 0, 2, 0);
+        told("region a 5 1 0;region b 5 1 0;region c 5 1 0;join a c 9;join a b 1;join b c 1;law way length;")
+                .due(2, "way", 0, 2, 0);
         // Behind 60 one may be there, but go nowhere.
         told("region a 5 1 0;region b 5 1 0;join a b 1;").due(60, "way", 0, 1, 59).due(-2, "way", 0, 1, 60);
     }
 
     /** Promise 23. */
     private static void setOut() {
-        told(chain("law way 9;")).due(0, "setOut", 0, 5).due(0, "setOut", 3, 3).due(NONE, "setOut", 6, 0).due(NONE, "setOut", 0, 6)
+        told(chain("law way 9;")).due(0, "setOut", 0, 5).due(0, "setOut", 3, 3).due(NONE, "setOut", 6, 0)
+                .due(NONE, "setOut", 0, 6)
                 .due(NONE, "setOut", -1, 0).due(NONE, "setOut", MIN, MAX);
         told("region a 5 1 0;region b 5 1 0;").due(-2, "setOut", 0, 1).due(0, "setOut", 0, 0);
         // It opens behind 19, 20, 21 seasons: 20 at most.
@@ -611,8 +633,10 @@ public final class CallEdgesTest {
             run.due(from + 4, "way", 0, 1, 0).due(Math.min(20, from + 3), "setOut", 0, 1);
         }
         // Just in time: there by the 60th season, not by the 61st.
-        told("region p 1 1 0;region q 4 1 0;join p q 1;person a p 9 1;law gain scale*(season>=58);").due(60, "way", 0, 1, 0).due(20, "setOut", 0, 1);
-        told("region p 1 1 0;region q 4 1 0;join p q 1;person a p 9 1;law gain scale*(season>=59);").due(-2, "way", 0, 1, 0).due(-2, "setOut", 0, 1);
+        told("region p 1 1 0;region q 4 1 0;join p q 1;person a p 9 1;law gain scale*(season>=58);").due(60, "way", 0, 1, 0)
+                .due(20, "setOut", 0, 1);
+        told("region p 1 1 0;region q 4 1 0;join p q 1;person a p 9 1;law gain scale*(season>=59);").due(-2, "way", 0, 1, 0)
+                .due(-2, "setOut", 0, 1);
         // From now on, not from the text on.
         Run run = told(opens + "5)*9;");
         run.due(3, "seasons", 3).due(3, "way", 0, 1, 0).due(2, "setOut", 0, 1);
@@ -638,6 +662,16 @@ public final class CallEdgesTest {
         for (int person = 0; person < 8; person++) {
             run.due(person == 0 ? 4 : 5, "live", person);
         }
+        // All in the last region, all in the first.
+        String lone = "region a 5 1 0;region b 5 1 0;region c 5 1 0;region d 5 1 0;region e 5 1 0;region f 1 1 8;";
+        run = told(lone + Realms.EIGHT_PEOPLE);
+        for (int person = 0; person < 8; person++) {
+            run.due(5, "live", person);
+        }
+        run = told(lone.replace("a 5 1 0", "a 5 1 8").replace("f 1 1 8", "f 1 1 0") + Realms.EIGHT_PEOPLE);
+        for (int person = 0; person < 8; person++) {
+            run.due(0, "live", person);
+        }
         // One home too few.
         run = told("region a 5 1 0;region b 5 1 0;region c 5 1 0;region d 5 1 0;region e 5 1 1;region f 1 1 6;" + Realms.EIGHT_PEOPLE);
         run.due(-2, "live", 0).due(-2, "live", 7);
@@ -650,12 +684,15 @@ public final class CallEdgesTest {
             }
         }
         // One more in sum goes ahead of the first by people.
-        told("region p 5 1 1;region q 5 2 1;person a p 1 1;person b p 2 1;law gain area*size;").due(0, "live", 0).due(1, "live", 1);
-        told("region p 5 1 1;region q 5 2 1;person a p 2 1;person b p 1 1;law gain area*size;").due(1, "live", 0).due(0, "live", 1);
+        told("region p 5 1 1;region q 5 2 1;person a p 1 1;person b p 2 1;law gain area*size;").due(0, "live", 0)
+                .due(1, "live", 1);
+        told("region p 5 1 1;region q 5 2 1;person a p 2 1;person b p 1 1;law gain area*size;").due(1, "live", 0)
+                .due(0, "live", 1);
         // Torn and crowd as now, of the region that is asked for; by the scale of now.
         told("region p 5 1 9;region q 9 1 9;region r 8 1 9;join q p 1;person a p 1 1;law gain torn;").due(0, "live", 0);
         told("region p 5 1 9;region q 5 1 9;person a p 1 1;person b q 1 1;person c q 1 1;law gain crowd;").due(1, "live", 0);
-        run = told("region p 5 1 9;region q 7 1 9;person a p 7 1;").due(1, "live", 0).yes("decree", 0, 7).due(0, "live", 0).due(0, "person", 0, 0);
+        run = told("region p 5 1 9;region q 7 1 9;person a p 7 1;").due(1, "live", 0).yes("decree", 0, 7).due(0, "live", 0)
+                .due(0, "person", 0, 0);
     }
 
     /** Promise 25. */
@@ -663,11 +700,13 @@ public final class CallEdgesTest {
         Run run = told("region p 1 1 9;region q 9 1 9;region r 2 1 9;person a p 1 1;person b q 1 1;person c r 1 1;debt a 99 yard;debt b 1 yard;"
                 + "debt c 99;");
         run.due(99, "owed", 0, 0).due(1, "owed", 1, 0).due(99, "owed", 2, 0).due(0, "owed", 0, 1).due(2, "owed", 2, 1);
-        run.yes("decree", 0, 9).due(891, "owed", 0, 0).due(99, "owed", 0, 2).yes("decree", 1, 8).due(0, "owed", 1, 0).due(1, "owed", 1, 2);
+        run.yes("decree", 0, 9).due(891, "owed", 0, 0).due(99, "owed", 0, 2).yes("decree", 1, 8).due(0, "owed", 1, 0)
+                .due(1, "owed", 1, 2);
         run.yes("decree", 2, 9).due(99, "owed", 2, 0);
         // By the region that one is in now: 99 by 9 by 2.
         run.yes("move", 0, 2).due(445, "owed", 0, 0).yes("decree", 2, 1).due(49, "owed", 0, 0);
-        run.due(NONE, "owed", 3, 0).due(NONE, "owed", -1, 0).due(NONE, "owed", 0, 3).due(NONE, "owed", 0, -1).due(NONE, "owed", MIN, MIN);
+        run.due(NONE, "owed", 3, 0).due(NONE, "owed", -1, 0).due(NONE, "owed", 0, 3).due(NONE, "owed", 0, -1)
+                .due(NONE, "owed", MIN, MIN);
         told("region p 1 1 9;person a p 1 1;").due(NONE, "owed", 0, 0).due(NONE, "owed", 0, 1).due(NONE, "owed", 0, 2);
         told(Realms.FULL).due(7, "owed", 5, 1).due(3, "owed", 5, 2).due(NONE, "owed", 6, 2);
     }
@@ -676,18 +715,24 @@ public final class CallEdgesTest {
     private static void rests() {
         // One wants it as it is, the other anything else: no rest.
         Run run = told("region p 5 1 9;person a p 4 1;person b p 6 1;law gain (size-5)*(scale-5)*(scale-5);");
-        run.due(0, "rests", 0, 1).due(-2, "rest", 0, 1, 0).due(-2, "rest", 0, 1, MAX).due(NONE, "rest", 0, 1, -1).due(NONE, "rest", 0, 1, MIN);
+        run.due(0, "rests", 0, 1).due(-2, "rest", 0, 1, 0).due(-2, "rest", 0, 1, MAX).due(NONE, "rest", 0, 1, -1)
+                .due(NONE, "rest", 0, 1, MIN);
         // All four; the fifth isn't.
         run = told("region p 5 1 9;region q 5 1 9;person a p 5 0;person b p 5 0;person c q 5 0;");
-        run.due(4, "rests", 0, 1).due(0, "rest", 0, 1, 0).due(1, "rest", 0, 1, 1).due(10, "rest", 0, 1, 2).due(11, "rest", 0, 1, 3);
+        run.due(4, "rests", 0, 1).due(0, "rest", 0, 1, 0).due(1, "rest", 0, 1, 1).due(10, "rest", 0, 1, 2)
+                .due(11, "rest", 0, 1, 3);
         run.due(-2, "rest", 0, 1, 4).due(-2, "rest", 0, 1, MAX).due(NONE, "rest", 0, 1, -1);
-        run.due(NONE, "rests", 0, 0).due(NONE, "rests", 0, 2).due(NONE, "rests", 0, 3).due(NONE, "rests", 3, 3).due(NONE, "rests", -1, 0);
+        run.due(NONE, "rests", 0, 0).due(NONE, "rests", 0, 2).due(NONE, "rests", 0, 3).due(NONE, "rests", 3, 3)
+                .due(NONE, "rests", -1, 0);
         run.due(NONE, "rest", 2, 2, 0).due(NONE, "rest", 2, 1, 0).due(NONE, "rest", 0, 3, -1);
         run.yes("move", 2, 0).due(4, "rests", 0, 2).yes("move", 1, 1).due(NONE, "rests", 0, 1);
         // At 9 larger is no more, at 1 smaller no less.
-        told("region p 9 1 9;person a p 9 3;person b p 1 1;").due(2, "rests", 0, 1).due(0, "rest", 0, 1, 0).due(1, "rest", 0, 1, 1);
-        told("region p 1 1 9;person a p 1 3;person b p 9 1;").due(2, "rests", 0, 1).due(10, "rest", 0, 1, 0).due(11, "rest", 0, 1, 1);
-        told("region p 9 1 9;person a p 9 1;person b p 9 1;").due(3, "rests", 0, 1).due(0, "rest", 0, 1, 0).due(1, "rest", 0, 1, 1)
+        told("region p 9 1 9;person a p 9 3;person b p 1 1;").due(2, "rests", 0, 1).due(0, "rest", 0, 1, 0)
+                .due(1, "rest", 0, 1, 1);
+        told("region p 1 1 9;person a p 1 3;person b p 9 1;").due(2, "rests", 0, 1).due(10, "rest", 0, 1, 0)
+                .due(11, "rest", 0, 1, 1);
+        told("region p 9 1 9;person a p 9 1;person b p 9 1;").due(3, "rests", 0, 1).due(0, "rest", 0, 1, 0)
+                .due(1, "rest", 0, 1, 1)
                 .due(10, "rest", 0, 1, 2).due(-2, "rest", 0, 1, 3);
         // The same two the other way round: by the first one's, then the second one's.
         run = told("region p 5 1 9;person a p 9 2;person b p 1 1;");
@@ -705,13 +750,16 @@ public final class CallEdgesTest {
     /** Promise 28. */
     private static void stones() {
         Run run = told(Realms.SMALL);
-        run.due(NONE, "stone", 0, 0, 1, true).due(NONE, "stone", 31, 0, 1, true).due(NONE, "stone", 1, 3, 1, true).due(NONE, "stone", 1, -1, 1, true);
+        run.due(NONE, "stone", 0, 0, 1, true).due(NONE, "stone", 31, 0, 1, true).due(NONE, "stone", 1, 3, 1, true)
+                .due(NONE, "stone", 1, -1, 1, true);
         run.due(NONE, "stone", 1, 0, 0, false).due(NONE, "stone", 1, 0, 10, false).due(0, "count", 11);
-        run.due(0, "stone", 1, 0, 1, true).due(1, "stone", 30, 2, 9, false).due(2, "stone", 1, 0, 1, true).due(3, "stone", 30, 0, 9, false);
+        run.due(0, "stone", 1, 0, 1, true).due(1, "stone", 30, 2, 9, false).due(2, "stone", 1, 0, 1, true)
+                .due(3, "stone", 30, 0, 9, false);
         for (int k = 4; k < 24; k++) {
             run.due(k, "stone", 1 + k, k % 3, 1, true);
         }
-        run.due(NONE, "stone", 1, 0, 1, true).due(NONE, "stone", 0, 0, 1, true).due(NONE, "strike", 0).due(NONE, "strike", 23).due(NONE, "strike", 24);
+        run.due(NONE, "stone", 1, 0, 1, true).due(NONE, "stone", 0, 0, 1, true).due(NONE, "strike", 0).due(NONE, "strike", 23)
+                .due(NONE, "strike", 24);
         run.due(24, "count", 11).due(24, "count", 12).no("known", 25).yes("known", 24).yes("known", 23).due(23, "count", 12);
         told("tear 1;").due(NONE, "stone", 1, 0, 1, true).due(NONE, "strike", 0);
     }
@@ -720,7 +768,8 @@ public final class CallEdgesTest {
     private static void strikesAndKnown() {
         // p is 3, 4, 5 as told; behind one season at least 6 only from 7 on: nothing is 9.
         Run run = told("region p 3 9 2;person a p 9 1;");
-        run.due(NONE, "strike", 0).no("known", 1).yes("known", 0).yes("known", -1).no("known", -2).no("known", MIN).no("known", MAX);
+        run.due(NONE, "strike", 0).no("known", 1).yes("known", 0).yes("known", -1).no("known", -2).no("known", MIN)
+                .no("known", MAX);
         run.due(0, "stone", 1, 0, 6, true).due(0b1111100000, "had", 0);
         run.due(NONE, "strike", 1).due(NONE, "strike", -1).due(NONE, "strike", MIN).due(NONE, "strike", MAX);
         // Each strikes the one ahead of it: the last one counts, and so every other.
@@ -737,7 +786,8 @@ public final class CallEdgesTest {
         run.due(0, "stone", 1, 0, 6, true).due(1, "strike", 0).due(2, "strike", 0).due(3, "strike", 1).due(1022, "had", 0);
         run.due(4, "strike", 2).due(0b1111100000, "had", 0).due(5, "strike", 4).due(1022, "had", 0);
         // By n those to come aren't known; by all they are.
-        run.yes("known", 5).due(0b1111100000, "had", 0).due(6, "stone", 1, 0, 9, true).due(0b1111100000, "had", 0).due(5, "count", 12);
+        run.yes("known", 5).due(0b1111100000, "had", 0).due(6, "stone", 1, 0, 9, true).due(0b1111100000, "had", 0)
+                .due(5, "count", 12);
         run.yes("known", -1).due(0b1100000000, "had", 0).due(7, "stone", 1, 0, 9, false).due(0, "had", 0).due(8, "count", 12);
         run.no("known", 9).due(8, "count", 12).yes("known", 8).due(8, "stone", 1, 0, 1, true).due(8, "count", 12).yes("known", 9);
     }
@@ -745,20 +795,26 @@ public final class CallEdgesTest {
     /** Promise 31. */
     private static void had() {
         Run run = told("region p 3 9 2;region q 9 1 1;person a p 9 1;");
-        run.due(1022, "had", 0).due(1022, "had", 1).due(NONE, "had", 2).due(NONE, "had", -1).due(NONE, "had", MIN).due(NONE, "had", MAX);
+        run.due(1022, "had", 0).due(1022, "had", 1).due(NONE, "had", 2).due(NONE, "had", -1).due(NONE, "had", MIN)
+                .due(NONE, "had", MAX);
         // At least 1 is always so, less than 1 never; at least 9 by 8 and 9.
         run.due(0, "stone", 1, 0, 1, true).due(1022, "had", 0).due(1, "stone", 1, 0, 9, true).due(0b1100000000, "had", 0);
         run = told("region p 3 9 2;person a p 9 1;").due(0, "stone", 1, 0, 1, false).due(0, "had", 0);
         // Less than 9 behind 7 seasons: 1 alone; behind 8: none.
-        told("region p 3 9 2;person a p 9 1;").due(0, "stone", 7, 0, 9, false).due(2, "had", 0).due(1, "stone", 8, 0, 9, false).due(0, "had", 0);
+        told("region p 3 9 2;person a p 9 1;").due(0, "stone", 7, 0, 9, false).due(2, "had", 0).due(1, "stone", 8, 0, 9, false)
+                .due(0, "had", 0);
         // Behind 30: by the season's own count, which starts with the text.
-        run = told("region p 3 9 2;person a p 9 1;law gain scale*(season>=29);").due(0, "stone", 30, 0, 4, true).due(0b1111111000, "had", 0);
+        run = told("region p 3 9 2;person a p 9 1;law gain scale*(season>=29);").due(0, "stone", 30, 0, 4, true)
+                .due(0b1111111000, "had", 0);
         run.due(5, "seasons", 5).due(0b1111111000, "had", 0);
-        told("region p 3 9 2;person a p 9 1;law gain scale*(season>=30);").due(0, "stone", 30, 0, 4, true).due(0b1111110000, "had", 0);
-        told("region p 3 9 2;person a p 9 1;law gain scale*(season>=1);").due(0, "stone", 1, 0, 4, true).due(0b1111110000, "had", 0);
+        told("region p 3 9 2;person a p 9 1;law gain scale*(season>=30);").due(0, "stone", 30, 0, 4, true)
+                .due(0b1111110000, "had", 0);
+        told("region p 3 9 2;person a p 9 1;law gain scale*(season>=1);").due(0, "stone", 1, 0, 4, true)
+                .due(0b1111110000, "had", 0);
         // Nobody canvassed, moved, no decree: as told. The told scale is replaced, others' are as told.
         run = told("region p 3 9 2;region q 6 9 2;person a p 9 1;");
-        run.yes("canvass", 0, -1).yes("decree", 0, 9).yes("decree", 1, 1).yes("move", 0, 1).due(0, "stone", 1, 0, 4, true).due(0b1111111000, "had", 0);
+        run.yes("canvass", 0, -1).yes("decree", 0, 9).yes("decree", 1, 1).yes("move", 0, 1).due(0, "stone", 1, 0, 4, true)
+                .due(0b1111111000, "had", 0);
         run.due(1, "stone", 1, 1, 6, true).due(0b1111111000, "had", 0).due(0b1111000000, "had", 1);
         run.due(2, "stone", 1, 1, 6, false).due(0, "had", 0).due(0, "had", 1);
     }
@@ -766,9 +822,11 @@ public final class CallEdgesTest {
     /** Promise 32. */
     private static void chance() {
         Run run = told("region p 5 1 9;person a p 5 1;law gain 0;");
-        run.due(NONE, "chance", -1, 1, 0, 1).due(NONE, "chance", MIN, 1, 0, 1).due(NONE, "chance", 0, 0, 0, 1).due(NONE, "chance", 0, 61, 0, 1);
+        run.due(NONE, "chance", -1, 1, 0, 1).due(NONE, "chance", MIN, 1, 0, 1).due(NONE, "chance", 0, 0, 0, 1)
+                .due(NONE, "chance", 0, 61, 0, 1);
         run.due(NONE, "chance", 0, 1, 1, 1).due(NONE, "chance", 0, 1, 0, 0).due(NONE, "chance", 0, 1, 0, 10);
-        run.due(10, "chance", MAX, 60, 0, 1).due(10, "chance", 0, 60, 0, 1).due(10, "chance", MAX, 1, 0, 4).due(0, "chance", MAX, 1, 0, 7);
+        run.due(10, "chance", MAX, 60, 0, 1).due(10, "chance", 0, 60, 0, 1).due(10, "chance", MAX, 1, 0, 4)
+                .due(0, "chance", MAX, 1, 0, 7);
         for (int seed : new int[] {0, 1, 12345, 65535, 65536, MAX - 1, MAX}) {
             for (int n : new int[] {1, 2, 60}) {
                 run.due(drawn(seed, n, 6), "chance", seed, n, 0, 6).due(drawn(seed, n, 5), "chance", seed, n, 0, 5);
@@ -849,15 +907,20 @@ public final class CallEdgesTest {
         // What is refused is nothing to undo.
         run.no("move", 0, 0).no("decree", 0, 5).no("canvass", 0, 2).due(0, "count", 13).due(NONE, "undo");
         // What is undone can't be undone again; what comes then goes first.
-        run.yes("canvass", 0, 1).yes("canvass", 0, 0).due(1, "undo").due(1, "person", 0, 3).yes("decree", 0, 9).due(1, "undo").due(0, "undo");
+        run.yes("canvass", 0, 1).yes("canvass", 0, 0).due(1, "undo").due(1, "person", 0, 3).yes("decree", 0, 9).due(1, "undo")
+                .due(0, "undo");
         run.due(0, "person", 0, 5).due(NONE, "undo");
         // Back into a region that has no home for one: it was there.
-        run = told("region p 5 1 0;region q 5 1 9;person a p 5 1;").yes("move", 0, 1).no("move", 0, 0).due(0, "undo").due(0, "person", 0, 0);
+        run = told("region p 5 1 0;region q 5 1 9;person a p 5 1;").yes("move", 0, 1).no("move", 0, 0).due(0, "undo")
+                .due(0, "person", 0, 0);
         // A season makes an end of it, no season none; joins are torn and whole again.
-        run = told("region p 5 1 9;region q 5 1 9;join p q 1;person a p 5 1;").yes("decree", 0, 1).due(1, "count", 7).due(0, "seasons", 0);
-        run.due(NONE, "seasons", 100).due(0, "undo").due(0, "count", 7).yes("decree", 0, 1).due(1, "seasons", 1).due(NONE, "undo").due(0, "count", 13);
+        run = told("region p 5 1 9;region q 5 1 9;join p q 1;person a p 5 1;").yes("decree", 0, 1).due(1, "count", 7)
+                .due(0, "seasons", 0);
+        run.due(NONE, "seasons", 100).due(0, "undo").due(0, "count", 7).yes("decree", 0, 1).due(1, "seasons", 1)
+                .due(NONE, "undo").due(0, "count", 13);
         // Stones are no such calls.
-        run.yes("canvass", 0, 0).due(0, "stone", 1, 0, 1, true).due(1, "strike", 0).yes("known", 1).due(0, "undo").due(2, "count", 11).due(1, "count", 12);
+        run.yes("canvass", 0, 0).due(0, "stone", 1, 0, 1, true).due(1, "strike", 0).yes("known", 1).due(0, "undo")
+                .due(2, "count", 11).due(1, "count", 12);
     }
 
     /** Promises 35 and 36. */
@@ -867,12 +930,15 @@ public final class CallEdgesTest {
         run.yes("canvass", 0, -1).due(1, "count", 13).due(0, "keep").due(1, "count", 13).due(0, "undo").due(0, "person", 0, 5);
         run.due(0, "back").due(1, "person", 0, 5).due(NONE, "undo").due(0, "count", 13);
         // Changed behind keep: the image is as it was.
-        run.yes("decree", 0, 9).yes("move", 0, 2).yes("canvass", 0, 1).due(5, "seasons", 5).due(0, "back").due(3, "region", 0, 0).due(0, "person", 0, 0);
-        run.due(-1, "person", 0, 3).due(0, "count", 8).due(0, "count", 9).due(0, "count", 5).due(1, "count", 7).due(2, "region", 0, 3);
+        run.yes("decree", 0, 9).yes("move", 0, 2).yes("canvass", 0, 1).due(5, "seasons", 5).due(0, "back")
+                .due(3, "region", 0, 0).due(0, "person", 0, 0);
+        run.due(-1, "person", 0, 3).due(0, "count", 8).due(0, "count", 9).due(0, "count", 5).due(1, "count", 7)
+                .due(2, "region", 0, 3);
         // Changed behind back: so, too.
         run.yes("decree", 0, 9).due(2, "seasons", 2).due(0, "back").due(3, "region", 0, 0);
         // Stones come and stay.
-        run.due(0, "stone", 1, 0, 9, true).due(0, "back").due(1, "count", 11).due(0, "keep").due(1, "strike", 0).due(0, "back").due(2, "count", 11);
+        run.due(0, "stone", 1, 0, 9, true).due(0, "back").due(1, "count", 11).due(0, "keep").due(1, "strike", 0).due(0, "back")
+                .due(2, "count", 11);
         // One in place of the other.
         run.due(3, "seasons", 3).due(3, "keep").due(4, "seasons", 1).due(3, "back").due(3, "count", 5).due(3, "back");
         // What a new text takes along; what a fault leaves.

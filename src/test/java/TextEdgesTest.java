@@ -6,6 +6,7 @@ public final class TextEdgesTest {
     private static final int NONE = -1;
     private static final int MIN = Integer.MIN_VALUE;
     private static final int MAX = Integer.MAX_VALUE;
+    private static final long ERROR = Long.MIN_VALUE;
     private static final Check CHECK = new Check();
     private static final String[] WORDS = {"region", "join", "person", "debt", "yard", "tear", "law", "gain", "yield", "way",
         "or", "and", "not", "scale", "size", "area", "length", "crowd", "torn", "season"};
@@ -26,6 +27,7 @@ public final class TextEdgesTest {
         tapeFull();
         tapeCuts();
         textResets();
+        textBehindText();
         moreMustCome();
         cannotStand();
         bytesAlone();
@@ -68,10 +70,11 @@ public final class TextEdgesTest {
         run.due(Run.NO_PERSON, "person", 0, 0).due(MIN, "region", 0, 0).due(NONE, "join", 0, 0, 0);
         run.due(NONE, "named", 0, 0).due(NONE, "named", 1, 0).due(MIN, "gain", 0, 1);
         for (int what = 0; what <= 2; what++) {
-            run.due(Long.MIN_VALUE, "law", what, 0);
+            run.due(ERROR, "law", what, 0);
         }
         run.no("canvass", 0, 0).no("move", 0, 0).no("decree", 0, 1);
-        run.due(NONE, "ahead", 0, 0, 0).due(0, "steady", 1).due(0, "steady", 99).due(NONE, "decides", 0).due(NONE, "buy", 0, true);
+        run.due(NONE, "ahead", 0, 0, 0).due(0, "steady", 1).due(0, "steady", 99).due(NONE, "decides", 0)
+                .due(NONE, "buy", 0, true);
         run.due(0, "best", 0).due(-2, "best", 1).due(-2, "best", 4).due(NONE, "best", 5);
         run.due(0, "gaps").due(-2, "mend", 0).due(0, "mend", 1);
         run.due(NONE, "way", 0, 0, 0).due(NONE, "setOut", 0, 0).due(NONE, "live", 0).due(NONE, "owed", 0, 0);
@@ -156,7 +159,8 @@ public final class TextEdgesTest {
         }
         run.due(NONE, "undo").due(NONE, "back").due(NONE, "had", 0).due(NONE, "strike", 0);
         run.tell(Realms.SMALL);
-        run.due(16, "count", 6).due(1, "count", 7).due(0, "count", 5).due(0, "person", 0, 0).due(0, "person", 0, 5).due(0, "person", 0, 4);
+        run.due(16, "count", 6).due(1, "count", 7).due(0, "count", 5).due(0, "person", 0, 0).due(0, "person", 0, 5)
+                .due(0, "person", 0, 4);
         run.due(0, "region", 1, 6).due(3, "region", 0, 0).due(2, "region", 0, 3).due(0, "region", 2, 3);
         run.due(0, "stone", 1, 0, 9, true).due(1, "count", 12).due(0, "had", 0).due(NONE, "undo").due(NONE, "back");
         // A text that tells less leaves nothing of the one ahead: no law, no tear.
@@ -165,7 +169,32 @@ public final class TextEdgesTest {
         run.tell("region p 1 1 1;region q 4 1 1;join p q 1;person a p 1 1;");
         run.due(1, "count", 7).due(0, "count", 4).due(9, "gain", 0, 1);
         for (int what = 0; what <= 2; what++) {
-            run.due(Long.MIN_VALUE, "law", what, 0);
+            run.due(ERROR, "law", what, 0);
+        }
+    }
+
+    /** Nothing of any text ahead, fine or with a fault, is left: not its knots, its tear, its open '(' and waiting signs. */
+    private static void textBehindText() {
+        String knots = "law yield 1" + "+1".repeat(31) + ";law way 9;";
+        Run run = new Run(CHECK);
+        for (int k = 0; k < 6; k++) {
+            run.tell("region p 1 1 1;" + knots);
+            run.due(64, "count", 4).due(32, "law", 1, 0).due(ERROR, "law", 0, 0).due(1, "count", 0);
+        }
+        String apart = "region p 1 1 1;region q 5 1 1;join p q 1;";
+        run = new Run(CHECK);
+        for (int k = 0; k < 4; k++) {
+            run.tell(apart + "tear 4;").due(0, "count", 7).tell("tear 8;").tell(apart).due(1, "count", 7).tell(apart)
+                    .due(1, "count", 7);
+        }
+        for (String spoilt : new String[] {"law yield ((((1", "law yield not not 1 or 1 and 1 < 1 + 1 * #", "tear 8;law yield 1;#",
+            "region p 1 1 1;region x 1 1 1;person a p 1 1;join p x 1;debt a 1;x"}) {
+            run = Run.of(CHECK, "region q 1 1 1;");
+            for (int k = 0; k < 3; k++) {
+                run.feed(spoilt).due(NONE, "text", spoilt.length());
+                run.tell(apart + "law yield scale+(1);person b q 1 1;debt b 7;").due(6, "law", 1, 1).due(1, "count", 7);
+                run.due(3, "count", 4).due(2, "count", 0).due(1, "count", 1).due(1, "count", 2).due(1, "count", 3);
+            }
         }
     }
 
@@ -564,7 +593,8 @@ public final class TextEdgesTest {
         Run run = Run.of(CHECK, "region a 1 1 1;region aa 1 1 1;region aaaaaa 1 1 1;region zzzzzz 1 1 1;region b 1 1 1;"
                 + "person aa a 1 1;person a a 1 1;person zzzzzz a 1 1;");
         run.due(0, "named", 0, 1 << 25).due(1, "named", 0, 1 << 25 | 1 << 20).due(4, "named", 0, 2 << 25);
-        run.due(2, "named", 0, 0x02108421).due(3, "named", 0, Check.letters("zzzzzz")).due(NONE, "named", 0, Check.letters("aaa"));
+        run.due(2, "named", 0, 0x02108421).due(3, "named", 0, Check.letters("zzzzzz"))
+                .due(NONE, "named", 0, Check.letters("aaa"));
         run.due(NONE, "named", 0, Check.letters("zzzzzy")).due(NONE, "named", 0, Check.letters("zzzzz"));
         run.due(1, "named", 1, 1 << 25).due(0, "named", 1, 1 << 25 | 1 << 20).due(2, "named", 1, Check.letters("zzzzzz"));
         run.due(NONE, "named", 1, 2 << 25);
