@@ -192,6 +192,9 @@ public final class ModelTest {
     }
 
     private String spoil(String text) {
+        if (text.isEmpty()) {
+            return "#";
+        }
         int at = upTo(text.length() - 1);
         String[] bits = {" ", ";", "(", ")", "1", "9", "0", "a", "p", "<", ">", "=", "+", "not ", " and ", "scale", "yard",
             "tear 1;", "law way 1;", "region p 1 1 1;", "join p q 1;", "join q q 1;", "person x p 1 1;", "debt p 5;",
